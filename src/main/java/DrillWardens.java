@@ -447,9 +447,6 @@ public final class DrillWardens {
         if (now.placeOf(floor, person) != NONE) {
             return NOT_POSSIBLE;
         }
-        if (now.rowSizes[floor] >= ROW_ROOM) {
-            return FULL;
-        }
         return now.appendToRow(floor, person);
     }
 
@@ -575,7 +572,7 @@ public final class DrillWardens {
     }
 
     private static boolean isIn(int set, int member) {
-        return (set >> member & 1) == 1;
+        return (set >> member & 1) != 0;
     }
 
     private static void copy(int[] from, int[] to) {
@@ -815,7 +812,7 @@ public final class DrillWardens {
             logMinutes[latest] = length;
             logLeaders[latest] = leader;
             held[floor]++;
-            quarters[floor] |= 1 << day / QUARTER_DAYS;
+            quarters[floor] |= 1 << (day / QUARTER_DAYS);
             led[leader]++;
             minutes += length;
         }
@@ -1163,7 +1160,7 @@ public final class DrillWardens {
 
         private boolean readNumber(int slot, int kind, int which) {
             int value = nextDigit();
-            if (value == NONE || value < lowestOf(kind, which)) {
+            if (value == NONE || !isWithin(value, lowestOf(kind, which), highestOf(kind, which))) {
                 return false;
             }
             at++;

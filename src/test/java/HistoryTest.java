@@ -28,6 +28,29 @@ public final class HistoryTest {
         C.due("undo()", x.undo(), 0);
         C.due("row(0, 1)", x.row(0, 1), -5);
 
+        C.test("promise 15: undo of leaves and logs");
+        x = new DrillWardens();
+        x.leave(3, 1, 5);
+        x.leave(4, 10, 12);
+        x.takeBack(3, 3);
+        x.undo();
+        C.due("takeBack(3, 2)", x.takeBack(3, 2), 5);
+        C.due("takeBack(4, 11)", x.takeBack(4, 11), 3);
+        x.undo();
+        x.undo();
+        C.due("person(3, 2)", x.person(3, 2), 5);
+        C.due("person(4, 2)", x.person(4, 2), 3);
+        x.enlist(0, 7);
+        x.drill(0, 11);
+        x.pass(1);
+        x.leave(7, 1, 1);
+        x.set(1, 1);
+        x.drill(0, 22);
+        x.undo();
+        C.due("log(0, 0, 0)", x.log(0, 0, 0), 0);
+        C.due("log(0, 0, 1)", x.log(0, 0, 1), 11);
+        C.due("log(0, 0, 2)", x.log(0, 0, 2), 7);
+
         C.test("promise 15: undo, states dropped and used again");
         x = new DrillWardens();
         for (int day = 1; day <= 9; day++) {

@@ -135,6 +135,15 @@ public final class TextTest {
         C.due("again", x.perform(), 2);
         C.due("no stop so far", x.stopped(0), -5);
 
+        C.test("promise 13: perform, answers of 0 are no errors");
+        x = new DrillWardens();
+        Checks.needOnly(x, 1);
+        C.due("led by 0, none short, none left", Checks.perform(x, "row 0 0;drill 0 5;pass 1;off 0 0"), 4);
+        C.due("person(0, 4)", x.person(0, 4), 1);
+        C.due("floor(0, 1)", x.floor(0, 1), 0);
+        C.due("greatest numbers", Checks.perform(x, "row 9 15;leave 15 399 399;pass 99;off 9 15"), 4);
+        C.due("count(0)", x.count(0), 100);
+
         C.test("promise 13: perform, a full text");
         x = new DrillWardens();
         String text = "pass 1;pass 1;pass 1;pass 1;pass 1;pass 1;pass 1;pass 1;pass 1;pass 1;pass 1";

@@ -15,6 +15,7 @@ public final class ToldTest {
         ifLeft();
         bestDay();
         count();
+        zero();
         C.finish();
     }
 
@@ -115,10 +116,12 @@ public final class ToldTest {
             x.drill(3, 5);
         }
         x.pass(4);
+        x.drill(3, 6);
+        x.pass(4);
         C.due("floor(3, 0)", x.floor(3, 0), 2);
         C.due("floor(3, 1)", x.floor(3, 1), 3);
-        C.due("floor(3, 2)", x.floor(3, 2), 8);
-        C.due("floor(3, 3)", x.floor(3, 3), 5);
+        C.due("floor(3, 2)", x.floor(3, 2), 9);
+        C.due("floor(3, 3)", x.floor(3, 3), 9);
         C.due("floor(6, 2)", x.floor(6, 2), 0);
         C.due("floor(6, 3)", x.floor(6, 3), -5);
         C.due("floor(10, 9)", x.floor(10, 9), -1);
@@ -238,6 +241,9 @@ public final class ToldTest {
         C.due("not trained", x.reason(13, 3, 1), 2);
         C.due("on leave ahead of not in its row", x.reason(0, 3, 9), 1);
         C.due("the deputy serves", x.reason(13, 3, 2), 0);
+        x.train(4, 60);
+        C.due("the last day of training", x.reason(60, 3, 4), 5);
+        C.due("the day behind it", x.reason(61, 3, 4), 2);
         x.train(9, 50);
         C.due("not trained ahead of not in its row", x.reason(399, 3, 9), 2);
         x.setNeed(3, 0);
@@ -405,6 +411,33 @@ public final class ToldTest {
         C.due("bestDay(1)", x.bestDay(1), 64);
         x.train(5, 398);
         C.due("none", x.bestDay(1), -5);
+    }
+
+    /** The floor 0 and the person 0 are like the others. */
+    private static void zero() {
+        C.test("promises 18 to 30: the floor 0 and the person 0");
+        DrillWardens x = new DrillWardens();
+        C.due("enlist(0, 0)", x.enlist(0, 0), 1);
+        C.due("warden(0, 0, 0)", x.warden(0, 0, 0), 0);
+        C.due("staff(0, 0, 0)", x.staff(0, 0, 0), 1);
+        C.due("reason(0, 0, 0)", x.reason(0, 0, 0), 0);
+        C.due("firstShort(0)", x.firstShort(0), -5);
+        C.due("load(0, 5)", x.load(0, 5), 5);
+        C.due("ifLeft(0, 1, 3)", x.ifLeft(0, 1, 3), 3);
+        C.due("bestDay(0)", x.bestDay(0), 0);
+        C.due("bestDay(1)", x.bestDay(1), 1);
+        C.due("person(0, 3)", x.person(0, 3), 1);
+        C.due("person(0, 5)", x.person(0, 5), 0);
+        C.due("count(2)", x.count(2), 9);
+        C.due("count(3)", x.count(3), 9);
+        C.due("count(4)", x.count(4), 1);
+        x.set(0, 2);
+        C.due("warden(0, 0, 0)", x.warden(0, 0, 0), 0);
+        C.due("drill(0, 1)", x.drill(0, 1), 0);
+        C.due("count(7)", x.count(7), 1);
+        C.due("due(0)", x.due(0), 1022);
+        x.train(0, 20);
+        C.due("warden(21, 0, 0)", x.warden(21, 0, 0), -5);
     }
 
     private static void count() {

@@ -43,72 +43,72 @@ public final class TextTest {
         C.due("nothing is left behind it", x.perform(), -101);
     }
 
-    private static void fault(DrillWardens x, String text, int want) {
+    private static void fault(String text, int want) {
+        DrillWardens x = new DrillWardens();
         C.due("perform() of \"" + text + "\"", Checks.perform(x, text), -100 - want);
+        C.due("a fault is no stop", x.stopped(1), -5);
+        C.due("a fault is no act", x.count(12), 0);
+        C.due("nothing is carried out", x.count(0), 0);
     }
 
     private static void faults() {
         C.test("promise 13: perform, faults of words");
-        DrillWardens x = new DrillWardens();
         String[] words = {"row", "off", "leave", "drill", "pass"};
         for (String word : words) {
             for (int i = 0; i < word.length(); i++) {
-                fault(x, word.substring(0, i), i);
-                fault(x, word.substring(0, i) + "z", i);
-                fault(x, "pass 1;" + word.substring(0, i) + " ", 7 + i);
+                fault(word.substring(0, i), i);
+                fault(word.substring(0, i) + "z", i);
+                fault("pass 1;" + word.substring(0, i) + " ", 7 + i);
             }
-            fault(x, word, word.length());
-            fault(x, word + " ", word.length() + 1);
-            fault(x, word + "  1", word.length() + 1);
-            fault(x, word + ";", word.length());
-            fault(x, word + " x", word.length() + 1);
-            fault(x, word + " -", word.length() + 1);
+            fault(word, word.length());
+            fault(word + " ", word.length() + 1);
+            fault(word + "  1", word.length() + 1);
+            fault(word + ";", word.length());
+            fault(word + " x", word.length() + 1);
+            fault(word + " -", word.length() + 1);
         }
-        fault(x, "Row 1 2", 0);
-        fault(x, " row 1 2", 0);
-        fault(x, ";", 0);
-        fault(x, "pass 1;", 7);
-        fault(x, "pass 1;;", 7);
-        fault(x, "pass 1; pass 1", 7);
-        fault(x, "pass 1 ;pass 1", 6);
-        fault(x, "pass 1 1", 6);
-        fault(x, "row 1;", 5);
-        fault(x, "row 1", 5);
-        fault(x, "row 1 2 3", 7);
-        fault(x, "leave 1 2", 9);
-        fault(x, "leave 1 2;", 9);
-        fault(x, "drill 1" + (char) 0, 7);
-        fault(x, "drill 1" + (char) (256 + ' ') + "5", 7);
+        fault("Row 1 2", 0);
+        fault(" row 1 2", 0);
+        fault(";", 0);
+        fault("pass 1;", 7);
+        fault("pass 1;;", 7);
+        fault("pass 1; pass 1", 7);
+        fault("pass 1 ;pass 1", 6);
+        fault("pass 1 1", 6);
+        fault("row 1;", 5);
+        fault("row 1", 5);
+        fault("row 1 2 3", 7);
+        fault("leave 1 2", 9);
+        fault("leave 1 2;", 9);
+        fault("drill 1" + (char) 0, 7);
+        fault("drill 1" + (char) (256 + ' ') + "5", 7);
 
         C.test("promise 13: perform, faults of numbers");
-        fault(x, "row 10 1", 5);
-        fault(x, "row 00 1", 5);
-        fault(x, "row 0 00", 7);
-        fault(x, "row 0 16", 7);
-        fault(x, "row 0 20", 7);
-        fault(x, "row 0 150", 8);
-        fault(x, "off 10 1", 5);
-        fault(x, "off 0 16", 7);
-        fault(x, "off 0 01", 7);
-        fault(x, "leave 16 0 0", 7);
-        fault(x, "leave 1 400 0", 10);
-        fault(x, "leave 1 3990 0", 11);
-        fault(x, "leave 1 0 400", 12);
-        fault(x, "leave 1 0 99;leave 1 0 998", 25);
-        fault(x, "leave 1 00 1", 9);
-        fault(x, "drill 10 1", 7);
-        fault(x, "drill 1 0", 8);
-        fault(x, "drill 1 05", 8);
-        fault(x, "drill 1 61", 9);
-        fault(x, "drill 1 70", 9);
-        fault(x, "drill 1 600", 10);
-        fault(x, "pass 0", 5);
-        fault(x, "pass 100", 7);
-        fault(x, "pass 1" + (char) ('9' + 1), 6);
-        fault(x, "pass 1" + (char) ('0' - 1), 6);
-        C.due("faults are no stops", x.stopped(1), -5);
-        C.due("faults are no acts", x.count(12), 0);
-        C.due("nothing is carried out", x.count(0), 0);
+        fault("row 10 1", 5);
+        fault("row 00 1", 5);
+        fault("row 0 00", 7);
+        fault("row 0 16", 7);
+        fault("row 0 20", 7);
+        fault("row 0 150", 8);
+        fault("off 10 1", 5);
+        fault("off 0 16", 7);
+        fault("off 0 01", 7);
+        fault("leave 16 0 0", 7);
+        fault("leave 1 400 0", 10);
+        fault("leave 1 3990 0", 11);
+        fault("leave 1 0 400", 12);
+        fault("leave 1 0 99;leave 1 0 998", 25);
+        fault("leave 1 00 1", 9);
+        fault("drill 10 1", 7);
+        fault("drill 1 0", 8);
+        fault("drill 1 05", 8);
+        fault("drill 1 61", 9);
+        fault("drill 1 70", 9);
+        fault("drill 1 600", 10);
+        fault("pass 0", 5);
+        fault("pass 100", 7);
+        fault("pass 1" + (char) ('9' + 1), 6);
+        fault("pass 1" + (char) ('0' - 1), 6);
     }
 
     private static void perform() {
@@ -159,24 +159,33 @@ public final class TextTest {
 
     private static void performStops() {
         C.test("promise 13: perform, all or none");
-        DrillWardens x = new DrillWardens();
-        Checks.enlist(x, 0, 1, 2, 3, 4, 5);
-        x.keep();
-        String picture = Checks.picture(x);
-        stop(x, "row 1 5;leave 5 0 9;pass 2;row 0 5", 3, -4);
-        stop(x, "row 0 6", 0, -3);
-        stop(x, "off 3 3;leave 5 9 8", 1, -2);
-        stop(x, "leave 5 0 9;leave 5 9 9", 1, -4);
-        stop(x, "drill 0 5;drill 1 5", 1, -4);
-        stop(x, "pass 99;pass 99;pass 99;pass 99;pass 4;row 1 1", 4, -3);
-        x.clearText();
-        C.holds("a stop changes nothing", picture.equals(Checks.picture(x)));
+        stopped("row 1 5;leave 5 0 9;pass 2;row 0 5", 3, -4);
+        stopped("row 0 6", 0, -3);
+        stopped("off 3 3;leave 5 9 8", 1, -2);
+        stopped("leave 5 0 9;leave 5 9 9", 1, -4);
+        stopped("drill 0 5;drill 1 5", 1, -4);
+        stopped("pass 99;pass 99;pass 99;pass 99;pass 4;row 1 1", 4, -3);
+        DrillWardens x = fullRow();
         x.set(2, 1);
         C.due("refusals are looked at by the state of then",
                 Checks.perform(x, "leave 1 0 0;leave 2 0 0;leave 3 0 0;leave 4 0 0;leave 5 0 0"), -4);
         C.due("stopped(0)", x.stopped(0), 4);
         C.due("stopped(1)", x.stopped(1), -6);
         C.due("count(6)", x.count(6), 0);
+    }
+
+    private static DrillWardens fullRow() {
+        DrillWardens x = new DrillWardens();
+        Checks.enlist(x, 0, 1, 2, 3, 4, 5);
+        return x;
+    }
+
+    private static void stopped(String text, int order, int error) {
+        DrillWardens x = fullRow();
+        String picture = Checks.picture(x);
+        stop(x, text, order, error);
+        x.clearText();
+        C.holds("a stop changes nothing", picture.equals(Checks.picture(x)));
     }
 
     private static void stop(DrillWardens x, String text, int order, int error) {
